@@ -43,7 +43,7 @@ public final class RengaHall {
     private final Verse[] offered;
     private final int[] offerers;
     private final Sheet[] sheets;
-    /** Rows that calls try out: they hold nothing from one call to the next. */
+    // Kept only to be used again: they hold nothing from one call to the next.
     private final Verse trial;
     private final Means means;
     private int poetCount;
@@ -319,10 +319,10 @@ public final class RengaHall {
         int source = NONE;
         int least = distance(copy, NONE);
         for (int other = 0; other < copyCount; other++) {
-            int distance = distance(copy, other);
-            if (other != copy && distance < least) {
+            int places = distance(copy, other);
+            if (other != copy && places < least) {
                 source = other;
-                least = distance;
+                least = places;
             }
         }
         return source;
@@ -415,10 +415,11 @@ public final class RengaHall {
 
     /** The word at a place of a text, a copy or, by NONE, the poem as it is; NONE without one. */
     private int textWord(int text, int link, int place) {
-        if (text < 0 || text >= copyCount) {
+        if (text == NONE) {
             return poem.wordOrNone(link, place);
         }
-        return sheets[text].wordOrNone(link, place);
+        boolean isCopy = text >= 0 && text < copyCount;
+        return isCopy ? sheets[text].wordOrNone(link, place) : NONE;
     }
 
     private void fillSheet(Sheet sheet, int of) {

@@ -224,6 +224,8 @@ public final class JudgeCopyHandTest {
         t.is("the poem is 1 far, copy 1 too", hall.source(0), NONE);
         hall.write(0, 0, 0, 3);
         t.is("copy 1 is written wrong alike", hall.source(0), 1);
+        t.is("copy 0 and the copies that are as wrong", hall.far(0, 2), 0);
+        t.is("copy 0 is the lowest of them", hall.source(2), 0);
         t.noSuch("copy 4", () -> hall.source(4));
         t.noSuch("copy -1", () -> hall.source(NONE));
         RengaHall fresh = new RengaHall();

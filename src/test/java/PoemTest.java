@@ -53,14 +53,17 @@ public final class PoemTest {
 
     private static void beginAnew() {
         RengaHall hall = Halls.plain(3, 2);
-        hall.seat(1, 1);
         hall.add(0);
         hall.offer(0);
+        hall.begin(2, 0, 5, 5);
+        t.is("offers are gone", hall.offers(), 0);
+        hall.seat(0, 2);
+        hall.seat(1, 1);
         hall.add(1);
         hall.add(2);
         hall.begin(2, 0, 5, 5);
-        t.is("offers are gone", hall.offers(), 0);
         t.noSuch("offers are gone", () -> hall.choose(0));
+        t.is("the seat of the first is gone", hall.seat(0, 0), 0);
         t.is("seats are gone", hall.seat(1, 0), 0);
         t.is("the draft stays", hall.clear(), 2);
         Halls.link(hall, 0, 0);

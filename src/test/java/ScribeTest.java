@@ -219,6 +219,14 @@ public final class ScribeTest {
         t.is("4 between", next(hall, 0), 5);
         t.is("4 between, ahead of it SUMMER", next(hall, 1), 6);
         refused("SUMMER again", next(hall, 0), 7, hall, SUMMER);
+        t.is("none comes back as soon as wanted", next(hall, 2), 7);
+        RengaHall spring = seasons(SPRING, SPRING, SPRING, SUMMER, NONE, SPRING);
+        for (int link = 0; link < 4; link++) {
+            t.is("three of SPRING, and SUMMER", next(spring, link), link);
+        }
+        refused("SPRING again", next(spring, 5), 7, spring, SPRING);
+        t.is("none", next(spring, 4), 4);
+        refused("SPRING again behind none", next(spring, 5), 7, spring, SPRING);
     }
 
     private static void lengthWithoutSeason() {
