@@ -19,6 +19,12 @@ final class Expect {
         is(what, got ? 1 : 0, due ? 1 : 0);
     }
 
+    /** An answer of offer or mend that is due to be this fault, with this cause. */
+    void refused(String what, int got, int fault, RengaHall hall, int cause) {
+        is(what, got, -fault);
+        is(what + ", its cause", hall.why(), cause);
+    }
+
     void same(String what, String got, String due) {
         asked++;
         if (!got.equals(due)) {

@@ -1,4 +1,4 @@
-/** Makes halls for the tests, and tells all that can be asked of one. */
+/** Makes halls for the tests, offers rows and makes links in them. */
 final class Halls {
     private static final int NONE = RengaHall.NONE;
 
@@ -14,19 +14,56 @@ final class Halls {
         return hall;
     }
 
+    /** Adds so many words of 5 sounds, without season and signs, that call nothing to mind. */
+    static void addWords(RengaHall hall, int words) {
+        for (int i = 0; i < words; i++) {
+            hall.word(5, NONE, 0);
+        }
+    }
+
+    /** Lets each of the first words call each other one of them to mind. */
+    static void callAll(RengaHall hall, int words) {
+        for (int word = 0; word < words; word++) {
+            for (int other = 0; other < word; other++) {
+                hall.call(word, other);
+            }
+        }
+    }
+
     /**
      * A hall with two poets, so many words of 5 sounds without season and signs, each of which
      * calls each other one to mind, and a poem of so many links of 5 sounds, begun with span 0.
      */
     static RengaHall plain(int words, int links) {
         RengaHall hall = withPoets(2);
-        for (int word = 0; word < words; word++) {
-            hall.word(5, NONE, 0);
-            for (int other = 0; other < word; other++) {
-                hall.call(word, other);
-            }
-        }
+        addWords(hall, words);
+        callAll(hall, words);
         hall.begin(links, 0, 5, 5);
+        return hall;
+    }
+
+    /** A plain hall of which the first links are made: link i of poet i % 2 has word i. */
+    static RengaHall made(int words, int links, int made) {
+        RengaHall hall = plain(words, links);
+        for (int link = 0; link < made; link++) {
+            link(hall, link % 2, link);
+        }
+        return hall;
+    }
+
+    /**
+     * A hall with two poets and twelve words of 5 sounds, in which as many links of 6 words each
+     * were made as are told: those with even numbers have words 0 to 5, the others 6 to 11.
+     */
+    static RengaHall ofSixes(int links, int made) {
+        RengaHall hall = withPoets(2);
+        addWords(hall, 12);
+        hall.call(0, 6);
+        hall.begin(links, 0, 30, 30);
+        for (int link = 0; link < made; link++) {
+            int first = link % 2 == 0 ? 0 : 6;
+            link(hall, link % 2, first, first + 1, first + 2, first + 3, first + 4, first + 5);
+        }
         return hall;
     }
 
@@ -43,33 +80,5 @@ final class Halls {
     static int link(RengaHall hall, int poet, int... words) {
         int offer = offer(hall, poet, words);
         return offer < 0 ? offer : hall.choose(offer);
-    }
-
-    /** All answers to questions, of a hall with so many poets and copies. */
-    static String all(RengaHall hall, int poets, int copies) {
-        StringBuilder all = new StringBuilder();
-        all.append("links ").append(hall.links()).append(" offers ").append(hall.offers());
-        all.append(" why ").append(hall.why()).append(" prize ").append(hall.prize());
-        for (int poet = 0; poet < poets; poet++) {
-            all.append(" chances ").append(hall.chances(poet));
-        }
-        for (int link = 0; link < hall.links(); link++) {
-            all.append("\nlink ").append(link);
-            for (int what = 0; what <= 5; what++) {
-                all.append(' ').append(hall.ofLink(link, what));
-            }
-            all.append(" words");
-            for (int place = 0; place < hall.ofLink(link, 3); place++) {
-                all.append(' ').append(hall.wordAt(link, place));
-            }
-            all.append(" fault ").append(hall.faultAnew(link)).append(" hand ").append(hall.hand(link));
-        }
-        for (int copy = 0; copy < copies; copy++) {
-            all.append("\ncopy ").append(copy).append(" source ").append(hall.source(copy));
-            for (int other = NONE; other < copies; other++) {
-                all.append(' ').append(hall.far(copy, other));
-            }
-        }
-        return all.toString();
     }
 }

@@ -193,8 +193,14 @@ public final class LongRunTest {
         }
     }
 
-    /** Whether both answer the call alike; an exception is a number far below all answers. */
+    /**
+     * Whether both answer the call alike; an exception is a number far below all answers. What
+     * an object answers behind its 512th call is free, so that it is not called any more.
+     */
     private boolean same(String name, int... a) {
+        if (calls >= CALLS) {
+            return true;
+        }
         calls++;
         long got;
         try {

@@ -1,4 +1,4 @@
-/** The eight faults, which of several is told, and their causes (promises 9, 10 and 12). */
+/** The eight faults of offers, which of several is told, and their causes (promises 9 and 10). */
 public final class ScribeTest {
     private static final int NONE = RengaHall.NONE;
     private static final int SPRING = RengaHall.SPRING;
@@ -8,80 +8,143 @@ public final class ScribeTest {
     private static final Expect t = new Expect("ScribeTest");
 
     public static void main(String[] args) {
-        sounds();
-        mixed();
-        again();
-        againSpan();
-        turn();
-        join();
-        leave();
+        soundsOfEvenAndOddLinks();
+        soundsLeastAndMost();
+        mixedFirstUnlike();
+        mixedLeastAndGreatestPlace();
+        againInIt();
+        againInTheLinksAhead();
+        againTheLowestPlace();
+        againTheSpanOfThem();
+        turnOfTheLinkAhead();
+        turnOfLeastAndGreatestPoet();
+        joinOfTheFirstLink();
+        joinByCallOrSubject();
+        joinToldByTheLinkAhead();
+        leaveTheLowestSubject();
+        leaveTheLinkTwoAheadAlone();
         leavesSeasonEarly();
         staysInSeasonLong();
         comesBackSoon();
+        comesBackBetweenOthers();
         lengthWithoutSeason();
+        lengthOfSeveral();
         seat();
+        seatOfTheLastLink();
         firstOfSeveral();
         t.end();
     }
 
-    private static void refused(String what, int got, int fault, RengaHall hall, int cause) {
-        t.is(what, got, -fault);
-        t.is(what + ", its cause", hall.why(), cause);
-    }
-
-    private static void sounds() {
+    private static void soundsOfEvenAndOddLinks() {
         RengaHall hall = Halls.withPoets(2);
         hall.word(5, NONE, 1);
         hall.word(7, NONE, 1);
         hall.word(12, NONE, 1);
         hall.begin(3, 0, 12, 7);
-        refused("too few", Halls.link(hall, 0, 0), 1, hall, 5);
-        refused("too many", Halls.link(hall, 0, 0, 1, 1), 1, hall, 19);
-        refused("6 words of 12", Halls.link(hall, 0, 2, 2, 2, 2, 2, 2), 1, hall, 72);
-        refused("as many as odd links", Halls.link(hall, 0, 1), 1, hall, 7);
+        t.refused("too few", Halls.link(hall, 0, 0), 1, hall, 5);
+        t.refused("too many", Halls.link(hall, 0, 0, 1, 1), 1, hall, 19);
+        t.refused("as many as odd links", Halls.link(hall, 0, 1), 1, hall, 7);
         t.is("link 0", Halls.link(hall, 0, 0, 1), 0);
-        refused("as many as even links", Halls.link(hall, 1, 2), 1, hall, 12);
+        t.refused("as many as even links", Halls.link(hall, 1, 2), 1, hall, 12);
         t.is("link 1", Halls.link(hall, 1, 1), 1);
-        refused("as many as odd links", Halls.link(hall, 0, 1), 1, hall, 7);
+        t.refused("as many as odd links", Halls.link(hall, 0, 1), 1, hall, 7);
     }
 
-    private static void mixed() {
+    private static void soundsLeastAndMost() {
+        RengaHall hall = Halls.withPoets(1);
+        hall.word(1, NONE, 0);
+        hall.word(1, NONE, 0);
+        hall.word(1, NONE, 0);
+        hall.word(12, NONE, 0);
+        hall.word(12, NONE, 0);
+        hall.word(12, NONE, 0);
+        hall.word(4, NONE, 0);
+        hall.begin(2, 0, 2, 40);
+        t.refused("none", Halls.offer(hall, 0), 1, hall, 0);
+        t.refused("1 of 2", Halls.offer(hall, 0, 0), 1, hall, 1);
+        t.refused("3 of 2", Halls.offer(hall, 0, 0, 1, 2), 1, hall, 3);
+        t.is("2 of 2", Halls.offer(hall, 0, 0, 1), 0);
+        hall.begin(2, 0, 40, 2);
+        t.refused("39 of 40", Halls.offer(hall, 0, 3, 4, 5, 0, 1, 2), 1, hall, 39);
+        t.refused("41 of 40", Halls.offer(hall, 0, 3, 4, 5, 6, 0), 1, hall, 41);
+        t.refused("as many as 6 words can have", Halls.offer(hall, 0, 3, 3, 3, 3, 3, 3), 1, hall, 72);
+        t.is("40 of 40", Halls.offer(hall, 0, 3, 4, 5, 6), 0);
+    }
+
+    private static void mixedFirstUnlike() {
         RengaHall hall = Halls.withPoets(1);
         hall.word(2, NONE, 0);
         hall.word(2, SUMMER, 0);
         hall.word(2, SUMMER, 0);
         hall.word(2, WINTER, 0);
         hall.word(2, SPRING, 0);
-        hall.begin(2, 0, 10, 10);
-        refused("first unlike", Halls.link(hall, 0, 0, 1, 2, 3, 4), 2, hall, 3);
-        refused("unlike the first", Halls.link(hall, 0, 4, 0, 1, 2, 3), 2, hall, 2);
-        refused("two, then one as the first", Halls.link(hall, 0, 1, 3, 2, 0, 4), 2, hall, 1);
         hall.word(4, NONE, 0);
+        hall.begin(2, 0, 10, 10);
+        t.refused("first unlike", Halls.link(hall, 0, 0, 1, 2, 3, 4), 2, hall, 3);
+        t.refused("unlike the first", Halls.link(hall, 0, 4, 0, 1, 2, 3), 2, hall, 2);
+        t.refused("two, then one as the first", Halls.link(hall, 0, 1, 3, 2, 0, 4), 2, hall, 1);
         t.is("with words that have none", Halls.link(hall, 0, 0, 1, 2, 5), 0);
         t.is("the season", hall.ofLink(0, 1), SUMMER);
     }
 
-    private static void again() {
-        RengaHall hall = Halls.plain(2, 4);
-        hall.word(1, NONE, 0);
-        hall.word(2, NONE, 0);
-        hall.word(1, NONE, 0);
-        hall.begin(4, 10, 5, 5);
-        refused("twice", Halls.link(hall, 0, 2, 3, 4, 2), 3, hall, 3);
-        refused("two twice", Halls.link(hall, 0, 2, 4, 4, 2, 2), 3, hall, 2);
-        t.is("link 0", Halls.link(hall, 0, 0), 0);
-        refused("ahead", Halls.link(hall, 1, 0), 3, hall, 0);
-        t.is("link 1", Halls.link(hall, 1, 1), 1);
-        refused("two ahead", Halls.link(hall, 0, 0), 3, hall, 0);
-        refused("one ahead", Halls.link(hall, 0, 1), 3, hall, 0);
+    private static void mixedLeastAndGreatestPlace() {
+        RengaHall hall = Halls.withPoets(1);
+        for (int word = 0; word < 5; word++) {
+            hall.word(1, NONE, 0);
+        }
+        for (int season = SPRING; season <= WINTER; season++) {
+            hall.word(1, season, 0);
+        }
+        hall.begin(2, 0, 6, 6);
+        t.refused("place 1", Halls.offer(hall, 0, 5, 6, 0, 1, 2, 3), 2, hall, 1);
+        t.refused("place 5", Halls.offer(hall, 0, 8, 0, 1, 2, 3, 5), 2, hall, 5);
+        t.refused("place 5 behind place 4", Halls.offer(hall, 0, 0, 1, 2, 3, 7, 5), 2, hall, 5);
+        t.is("one word has a season", Halls.offer(hall, 0, 0, 1, 2, 3, 4, 5), 0);
     }
 
-    private static void againSpan() {
+    private static void againInIt() {
+        RengaHall hall = Halls.withPoets(1);
+        for (int word = 0; word < 6; word++) {
+            hall.word(1, NONE, 0);
+        }
+        hall.begin(2, 0, 6, 6);
+        t.refused("side by side", Halls.offer(hall, 0, 0, 0, 1, 2, 3, 4), 3, hall, 1);
+        t.refused("first and last", Halls.offer(hall, 0, 0, 1, 2, 3, 4, 0), 3, hall, 5);
+        t.refused("two twice", Halls.offer(hall, 0, 0, 1, 2, 2, 1, 0), 3, hall, 3);
+        t.refused("six times", Halls.offer(hall, 0, 5, 5, 5, 5, 5, 5), 3, hall, 1);
+        t.is("six words", Halls.offer(hall, 0, 0, 1, 2, 3, 4, 5), 0);
+        t.is("the words of offers are no links", Halls.offer(hall, 0, 0, 1, 2, 3, 4, 5), 1);
+    }
+
+    private static void againInTheLinksAhead() {
+        RengaHall hall = Halls.plain(3, 4);
+        hall.begin(4, 10, 5, 5);
+        t.is("link 0", Halls.link(hall, 0, 0), 0);
+        t.refused("ahead", Halls.link(hall, 1, 0), 3, hall, 0);
+        t.is("link 1", Halls.link(hall, 1, 1), 1);
+        t.refused("two ahead", Halls.link(hall, 0, 0), 3, hall, 0);
+        t.refused("one ahead", Halls.link(hall, 0, 1), 3, hall, 0);
+        t.is("neither", Halls.link(hall, 0, 2), 2);
+    }
+
+    private static void againTheLowestPlace() {
+        RengaHall hall = Halls.withPoets(2);
+        for (int word = 0; word < 12; word++) {
+            hall.word(1, NONE, 0);
+        }
+        hall.begin(3, 2, 6, 6);
+        t.is("link 0", Halls.link(hall, 0, 0, 1, 2, 3, 4, 5), 0);
+        t.refused("place 5", Halls.link(hall, 1, 6, 7, 8, 9, 10, 0), 3, hall, 5);
+        t.refused("all", Halls.link(hall, 1, 0, 1, 2, 3, 4, 5), 3, hall, 0);
+        t.refused("in it, then ahead", Halls.link(hall, 1, 6, 7, 6, 5, 8, 9), 3, hall, 2);
+        t.refused("ahead, then in it", Halls.link(hall, 1, 6, 5, 6, 7, 8, 9), 3, hall, 1);
+        t.is("neither, but no join", Halls.link(hall, 1, 6, 7, 8, 9, 10, 11), -5);
+    }
+
+    private static void againTheSpanOfThem() {
         for (int span = 0; span <= 10; span++) {
             RengaHall hall = Halls.withPoets(2);
-            for (int word = 0; word < 14; word++) {
-                hall.word(5, NONE, 0);
-            }
+            Halls.addWords(hall, 14);
             for (int word = 0; word < 13; word++) {
                 hall.call(word, word + 1);
             }
@@ -90,7 +153,6 @@ public final class ScribeTest {
                 t.is("link", Halls.link(hall, link % 2, link), link);
             }
             for (int word = 0; word < 12; word++) {
-                hall.clear();
                 int ahead = 12 - word;
                 int due = ahead <= span ? -3 : word == 10 ? 0 : -5;
                 t.is("span " + span + " word " + word, Halls.offer(hall, 0, word), due);
@@ -98,23 +160,42 @@ public final class ScribeTest {
         }
     }
 
-    private static void turn() {
+    private static void turnOfTheLinkAhead() {
         RengaHall hall = Halls.plain(3, 3);
-        hall.poet();
-        t.is("link 0", Halls.link(hall, 2, 0), 0);
-        refused("poet 2", Halls.link(hall, 2, 1), 4, hall, 2);
-        t.is("link 1", Halls.link(hall, 0, 1), 1);
-        refused("poet 0", Halls.link(hall, 0, 2), 4, hall, 0);
+        Halls.offer(hall, 0, 1);
+        t.is("offers are no links", Halls.offer(hall, 0, 0), 1);
+        t.is("link 0", hall.choose(1), 0);
+        t.refused("poet 0", Halls.link(hall, 0, 1), 4, hall, 0);
+        t.is("link 1", Halls.link(hall, 1, 1), 1);
+        t.refused("poet 1", Halls.link(hall, 1, 2), 4, hall, 1);
         hall.hide(1, true);
-        refused("poet 0, though it is hidden", Halls.link(hall, 0, 2), 4, hall, 0);
-        t.is("link 2", Halls.link(hall, 2, 2), 2);
-        t.is("mending looks at no turn", hall.mend(0, 2), 0);
-        RengaHall alone = Halls.plain(2, 2);
-        Halls.offer(alone, 0, 0);
-        t.is("offers are no links", Halls.offer(alone, 0, 1), 1);
+        t.refused("poet 1, though it is hidden", Halls.link(hall, 1, 2), 4, hall, 1);
+        t.is("link 2 of poet 0", Halls.link(hall, 0, 2), 2);
+        hall.begin(2, 0, 5, 5);
+        t.is("the last of a poem before is not ahead", Halls.link(hall, 0, 0), 0);
     }
 
-    private static void join() {
+    private static void turnOfLeastAndGreatestPoet() {
+        RengaHall hall = Halls.withPoets(6);
+        Halls.addWords(hall, 2);
+        hall.call(0, 1);
+        hall.begin(7, 0, 5, 5);
+        for (int poet = 0; poet < 6; poet++) {
+            t.is("link", Halls.link(hall, poet, poet % 2), poet);
+            t.refused("poet " + poet, Halls.link(hall, poet, 1 - poet % 2), 4, hall, poet);
+        }
+        t.is("poet 0 again", Halls.link(hall, 0, 0), 6);
+    }
+
+    private static void joinOfTheFirstLink() {
+        RengaHall hall = Halls.withPoets(2);
+        Halls.addWords(hall, 2);
+        hall.begin(2, 0, 5, 5);
+        t.is("it needs none", Halls.link(hall, 0, 0), 0);
+        t.refused("the second one does", Halls.link(hall, 1, 1), 5, hall, 0);
+    }
+
+    private static void joinByCallOrSubject() {
         RengaHall hall = Halls.withPoets(2);
         hall.word(5, NONE, 256 | 1);
         hall.word(5, NONE, 256 | 2);
@@ -125,45 +206,86 @@ public final class ScribeTest {
         for (int link = 0; link < 5; link++) {
             hall.seat(link, 1);
         }
-        t.is("the first needs none", Halls.link(hall, 0, 0), 0);
-        refused("the MOON is no subject", Halls.link(hall, 1, 1), 5, hall, 0);
+        t.is("link 0", Halls.link(hall, 0, 0), 0);
+        t.refused("the MOON is no subject", Halls.link(hall, 1, 1), 5, hall, 0);
         hall.call(1, 0);
         t.is("called to mind", Halls.link(hall, 1, 1), 1);
-        refused("not by others", Halls.link(hall, 0, 2), 5, hall, 1);
+        t.refused("not by others", Halls.link(hall, 0, 2), 5, hall, 1);
         hall.call(2, 1);
         t.is("called to mind", Halls.link(hall, 0, 2), 2);
         t.is("a subject in common", Halls.link(hall, 1, 3), 3);
-        refused("the link ahead alone", Halls.link(hall, 0, 4), 5, hall, 3);
+        t.refused("the link ahead alone", Halls.link(hall, 0, 4), 5, hall, 3);
     }
 
-    private static void leave() {
+    /** By words at the last places of both, and by the link ahead up to the last but one. */
+    private static void joinToldByTheLinkAhead() {
         RengaHall hall = Halls.withPoets(2);
-        hall.word(5, NONE, 8 | 32 | 128 | 256);
-        hall.word(5, NONE, 128 | 256);
-        hall.word(5, NONE, 32 | 128 | 256);
-        hall.word(5, NONE, 256 | 64);
+        Halls.addWords(hall, 4);
+        hall.word(10, NONE, 0);
         hall.call(1, 3);
-        hall.begin(4, 0, 5, 5);
-        for (int link = 0; link < 4; link++) {
+        hall.begin(36, 0, 10, 10);
+        for (int link = 0; link < 36; link++) {
+            if (link > 0) {
+                t.refused("no join", Halls.link(hall, link % 2, 4), 5, hall, link - 1);
+            }
+            int first = link % 2 == 0 ? 0 : 2;
+            t.is("by their last words", Halls.link(hall, link % 2, first, first + 1), link);
+        }
+    }
+
+    private static void leaveTheLowestSubject() {
+        for (int subject = 0; subject < 8; subject++) {
+            RengaHall hall = Halls.withPoets(2);
+            hall.word(5, NONE, 255);
+            hall.word(5, NONE, 0);
+            hall.word(5, NONE, 1 << subject);
+            hall.word(5, NONE, 128 | 1 << subject);
+            hall.word(5, NONE, 256 - (1 << subject));
+            for (int word = 0; word < 5; word++) {
+                if (word != 1) {
+                    hall.call(1, word);
+                }
+            }
+            hall.begin(3, 0, 5, 5);
+            t.is("link 0", Halls.link(hall, 0, 0), 0);
+            t.is("link 1", Halls.link(hall, 1, 1), 1);
+            t.refused("that alone", Halls.link(hall, 0, 2), 6, hall, subject);
+            t.refused("that and the greatest", Halls.link(hall, 0, 3), 6, hall, subject);
+            t.refused("that and all above it", Halls.link(hall, 0, 4), 6, hall, subject);
+            t.refused("all", Halls.link(hall, 0, 0), 6, hall, 0);
+            t.is("none", Halls.offer(hall, 0, 1), -5);
+        }
+    }
+
+    private static void leaveTheLinkTwoAheadAlone() {
+        RengaHall hall = Halls.withPoets(2);
+        hall.word(5, NONE, 1 | 256);
+        hall.word(5, NONE, 1 | 2 | 256);
+        hall.word(5, NONE, 2 | 4 | 256);
+        hall.word(5, NONE, 4 | 1 | 256);
+        hall.word(5, NONE, 4 | 256);
+        hall.begin(5, 0, 5, 5);
+        for (int link = 0; link < 5; link++) {
             hall.seat(link, 1);
         }
         t.is("link 0", Halls.link(hall, 0, 0), 0);
-        t.is("link 1", Halls.link(hall, 1, 1), 1);
-        refused("the lowest", Halls.link(hall, 0, 2), 6, hall, 5);
-        refused("the highest", Halls.link(hall, 0, 1), 6, hall, 7);
-        t.is("the MOON is no subject", Halls.link(hall, 0, 3), 2);
-        refused("two ahead", Halls.link(hall, 1, 1), 6, hall, 7);
+        t.is("the second has none two ahead", Halls.link(hall, 1, 1), 1);
+        t.refused("two ahead", Halls.link(hall, 0, 1), 6, hall, 0);
+        t.is("the MOON is no subject", Halls.link(hall, 0, 2), 2);
+        t.refused("two ahead", Halls.link(hall, 1, 2), 6, hall, 1);
+        t.refused("the subject of two ahead alone", Halls.link(hall, 1, 3), 6, hall, 0);
+        t.is("neither", Halls.link(hall, 1, 4), 3);
+        hall.call(0, 4);
+        t.is("three and four ahead", Halls.link(hall, 0, 0), 4);
     }
 
     /** A hall in which word i has the season told for it, and each calls each other to mind. */
     private static RengaHall seasons(int... seasons) {
         RengaHall hall = Halls.withPoets(2);
-        for (int word = 0; word < seasons.length; word++) {
-            hall.word(5, seasons[word], 0);
-            for (int other = 0; other < word; other++) {
-                hall.call(word, other);
-            }
+        for (int season : seasons) {
+            hall.word(5, season, 0);
         }
+        Halls.callAll(hall, seasons.length);
         hall.begin(36, 0, 5, 5);
         return hall;
     }
@@ -172,61 +294,86 @@ public final class ScribeTest {
         return Halls.link(hall, hall.links() % 2, word);
     }
 
+    private static boolean isLong(int season) {
+        return season == SPRING || season == AUTUMN;
+    }
+
     private static void leavesSeasonEarly() {
         for (int season = SPRING; season <= WINTER; season++) {
-            int other = (season + 1) % 4;
-            boolean isLong = season == SPRING || season == AUTUMN;
-            RengaHall hall = seasons(season, season, other, NONE);
+            RengaHall hall = seasons(season, season, (season + 1) % 4, NONE);
             t.is("run 1", next(hall, 0), 0);
-            if (!isLong) {
+            if (!isLong(season)) {
                 t.is("left at once", next(hall, 2), 1);
                 continue;
             }
-            refused("run 1, another", next(hall, 2), 7, hall, season);
-            refused("run 1, none", next(hall, 3), 7, hall, season);
+            t.refused("run 1, another", next(hall, 2), 7, hall, season);
+            t.refused("run 1, none", next(hall, 3), 7, hall, season);
             t.is("run 2", next(hall, 1), 1);
-            refused("run 2, another", next(hall, 2), 7, hall, season);
-            refused("run 2, none", next(hall, 3), 7, hall, season);
+            t.refused("run 2, another", next(hall, 2), 7, hall, season);
+            t.refused("run 2, none", next(hall, 3), 7, hall, season);
             t.is("run 3", next(hall, 0), 2);
-            t.is("left", next(hall, season == SPRING ? 2 : 3), 3);
+            t.is("another", Halls.offer(hall, 1, 2), 0);
+            t.is("none", Halls.offer(hall, 1, 3), 1);
+            t.is("or not left", Halls.offer(hall, 1, 1), 2);
         }
     }
 
     private static void staysInSeasonLong() {
         for (int season = SPRING; season <= WINTER; season++) {
-            int most = season == SPRING || season == AUTUMN ? 5 : 3;
-            RengaHall hall = seasons(season, season, NONE);
+            int most = isLong(season) ? 5 : 3;
+            RengaHall hall = seasons(season, season, NONE, (season + 1) % 4);
             for (int run = 1; run <= most; run++) {
                 t.is("stays", next(hall, run % 2), run - 1);
                 t.is("run", hall.ofLink(run - 1, 4), run);
             }
-            refused("too long", next(hall, 1 - most % 2), 7, hall, season);
-            t.is("none", next(hall, 2), most);
+            t.refused("too long", next(hall, 1 - most % 2), 7, hall, season);
+            t.is("another", Halls.offer(hall, most % 2, 3), 0);
+            t.is("none", Halls.offer(hall, most % 2, 2), 1);
         }
     }
 
+    /** Of the 4 links ahead none may have it: so 4 must stand between, not 3. */
     private static void comesBackSoon() {
+        for (int season = SPRING; season <= WINTER; season++) {
+            int run = isLong(season) ? 3 : 1;
+            RengaHall hall = seasons(season, season, NONE, NONE);
+            for (int link = 0; link < run; link++) {
+                t.is("run", next(hall, link % 2), link);
+            }
+            for (int between = 1; between <= 4; between++) {
+                t.is("none", next(hall, 2 + between % 2), run + between - 1);
+                int got = Halls.offer(hall, hall.links() % 2, 0);
+                if (between < 4) {
+                    t.refused(between + " between", got, 7, hall, season);
+                } else {
+                    t.is("4 between", got, 0);
+                }
+            }
+        }
+    }
+
+    private static void comesBackBetweenOthers() {
         RengaHall hall = seasons(SUMMER, WINTER, NONE, NONE, SUMMER);
         t.is("SUMMER", next(hall, 0), 0);
         t.is("WINTER", next(hall, 1), 1);
-        refused("1 between", next(hall, 4), 7, hall, SUMMER);
+        t.refused("1 between", next(hall, 4), 7, hall, SUMMER);
         t.is("none", next(hall, 2), 2);
-        refused("2 between", next(hall, 0), 7, hall, SUMMER);
-        refused("1 between", next(hall, 1), 7, hall, WINTER);
+        t.refused("2 between", next(hall, 0), 7, hall, SUMMER);
+        t.refused("1 between", next(hall, 1), 7, hall, WINTER);
         t.is("none", next(hall, 3), 3);
-        refused("3 between", next(hall, 0), 7, hall, SUMMER);
+        t.refused("3 between", next(hall, 0), 7, hall, SUMMER);
         t.is("none", next(hall, 2), 4);
         t.is("4 between", next(hall, 0), 5);
         t.is("4 between, ahead of it SUMMER", next(hall, 1), 6);
-        refused("SUMMER again", next(hall, 0), 7, hall, SUMMER);
+        t.refused("SUMMER again", next(hall, 0), 7, hall, SUMMER);
         t.is("none comes back as soon as wanted", next(hall, 2), 7);
         RengaHall spring = seasons(SPRING, SPRING, SPRING, SUMMER, NONE, SPRING);
         for (int link = 0; link < 4; link++) {
             t.is("three of SPRING, and SUMMER", next(spring, link), link);
         }
-        refused("SPRING again", next(spring, 5), 7, spring, SPRING);
+        t.refused("SPRING again", next(spring, 5), 7, spring, SPRING);
         t.is("none", next(spring, 4), 4);
-        refused("SPRING again behind none", next(spring, 5), 7, spring, SPRING);
+        t.refused("SPRING again behind none", next(spring, 5), 7, spring, SPRING);
     }
 
     private static void lengthWithoutSeason() {
@@ -238,6 +385,20 @@ public final class ScribeTest {
         t.is("SPRING behind none", next(hall, 2), 8);
     }
 
+    /** A season that comes back too soon behind one that is left too early: that is told. */
+    private static void lengthOfSeveral() {
+        RengaHall hall = seasons(SUMMER, SPRING, SPRING, SUMMER);
+        t.is("SUMMER", next(hall, 0), 0);
+        t.is("SPRING", next(hall, 1), 1);
+        t.refused("SPRING is left, SUMMER back", next(hall, 3), 7, hall, SPRING);
+        t.is("SPRING", next(hall, 2), 2);
+        t.refused("SPRING is left, SUMMER back", next(hall, 3), 7, hall, SPRING);
+        t.is("SPRING", next(hall, 1), 3);
+        t.refused("SUMMER is back", next(hall, 3), 7, hall, SUMMER);
+        t.is("SPRING", next(hall, 2), 4);
+        t.is("SUMMER", next(hall, 3), 5);
+    }
+
     private static void seat() {
         RengaHall hall = Halls.withPoets(2);
         hall.word(5, NONE, 0);
@@ -245,19 +406,40 @@ public final class ScribeTest {
         hall.word(5, NONE, 512);
         hall.word(5, NONE, 768);
         int[][] due = {{0, 1, 2, 1}, {1, 0, 1, 2}, {2, 1, 0, 1}};
-        hall.begin(2, 0, 5, 5);
         for (int seat = 0; seat <= 2; seat++) {
             for (int word = 0; word < 4; word++) {
                 hall.begin(2, 0, 5, 5);
                 hall.seat(0, seat);
                 int cause = due[seat][word];
-                int got = Halls.offer(hall, 0, word);
-                t.is("seat " + seat + " word " + word, got, cause == 0 ? 0 : -8);
-                if (cause != 0) {
-                    t.is("seat " + seat + " word " + word + " cause", hall.why(), cause);
+                String what = "seat " + seat + " word " + word;
+                if (cause == 0) {
+                    t.is(what, Halls.offer(hall, 0, word), 0);
+                } else {
+                    t.refused(what, Halls.offer(hall, 0, word), 8, hall, cause);
                 }
             }
         }
+    }
+
+    private static void seatOfTheLastLink() {
+        RengaHall hall = Halls.withPoets(2);
+        hall.word(5, NONE, 0);
+        hall.word(5, NONE, 0);
+        hall.word(5, NONE, 256);
+        hall.word(5, NONE, 512);
+        hall.word(5, NONE, 256);
+        Halls.callAll(hall, 5);
+        hall.begin(36, 0, 5, 5);
+        hall.seat(35, 2);
+        hall.seat(34, 1);
+        for (int link = 0; link < 34; link++) {
+            t.is("no seat", Halls.link(hall, link % 2, link % 2), link);
+        }
+        t.refused("no MOON", Halls.link(hall, 0, 0), 8, hall, 1);
+        t.is("MOON", Halls.link(hall, 0, 2), 34);
+        t.refused("no BLOSSOM", Halls.link(hall, 1, 1), 8, hall, 2);
+        t.refused("MOON in its stead", Halls.link(hall, 1, 4), 8, hall, 1);
+        t.is("BLOSSOM", Halls.link(hall, 1, 3), 35);
     }
 
     /** Rows with more faults each: the first of them is told. */
@@ -278,22 +460,22 @@ public final class ScribeTest {
         hall.begin(4, 2, 5, 5);
         Halls.link(hall, 0, 0);
         Halls.link(hall, 1, 1);
-        refused("SOUNDS", Halls.link(hall, 1, 2, 3, 2), 1, hall, 7);
-        refused("MIXED", Halls.link(hall, 1, 2, 3), 2, hall, 1);
+        t.refused("SOUNDS", Halls.link(hall, 1, 2, 3, 2), 1, hall, 7);
+        t.refused("MIXED", Halls.link(hall, 1, 2, 3), 2, hall, 1);
         hall.word(1, NONE, 0);
         hall.word(1, SPRING, 0);
         hall.word(1, SUMMER, 0);
-        refused("MIXED ahead of AGAIN", Halls.link(hall, 1, 11, 11, 11, 12, 13), 2, hall, 4);
-        refused("AGAIN", Halls.link(hall, 1, 1), 3, hall, 0);
-        refused("TURN", Halls.link(hall, 1, 5), 4, hall, 1);
-        refused("JOIN", Halls.link(hall, 0, 5), 5, hall, 1);
+        t.refused("MIXED ahead of AGAIN", Halls.link(hall, 1, 11, 11, 11, 12, 13), 2, hall, 4);
+        t.refused("AGAIN", Halls.link(hall, 1, 1), 3, hall, 0);
+        t.refused("TURN", Halls.link(hall, 1, 5), 4, hall, 1);
+        t.refused("JOIN", Halls.link(hall, 0, 5), 5, hall, 1);
         hall.call(5, 1);
         hall.call(9, 1);
         hall.call(10, 1);
-        refused("LEAVE", Halls.link(hall, 0, 5), 6, hall, 0);
-        refused("LEAVE", Halls.link(hall, 0, 8), 6, hall, 0);
-        refused("LENGTH", Halls.link(hall, 0, 9), 7, hall, SPRING);
-        refused("LENGTH", Halls.link(hall, 0, 7), 7, hall, SPRING);
-        refused("SEAT", Halls.link(hall, 0, 10), 8, hall, 1);
+        t.refused("LEAVE", Halls.link(hall, 0, 5), 6, hall, 0);
+        t.refused("LEAVE", Halls.link(hall, 0, 8), 6, hall, 0);
+        t.refused("LENGTH", Halls.link(hall, 0, 9), 7, hall, SPRING);
+        t.refused("LENGTH", Halls.link(hall, 0, 7), 7, hall, SPRING);
+        t.refused("SEAT", Halls.link(hall, 0, 10), 8, hall, 1);
     }
 }
