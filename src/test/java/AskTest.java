@@ -16,6 +16,7 @@ public final class AskTest {
         runAtLink();
         runOfAMendedLink();
         mendedOrNot();
+        hiddenLinkTellsAllButItsPoet();
         ofLinkFrom0ToTheLatest();
         ofLinkWhatFrom0To5();
         wordAtFrom0ToTheLast();
@@ -155,15 +156,15 @@ public final class AskTest {
 
     private static void runAtLink() {
         RengaHall hall = Halls.withPoets(2);
-        int[] seasons = {1, 1, 3, NONE, NONE, 0, 0, 0, 0, 0, 2};
-        int[] due = {1, 2, 1, 0, 0, 1, 2, 3, 4, 5, 1};
+        int[] seasons = {1, 1, 3, NONE, NONE, NONE, NONE, 3, 3, 0, 0, 0, 0, 0, 2};
+        int[] due = {1, 2, 1, 0, 0, 0, 0, 1, 2, 1, 2, 3, 4, 5, 1};
         for (int season : seasons) {
             hall.word(5, season, 0);
         }
         for (int word = 0; word + 1 < seasons.length; word++) {
             hall.call(word, word + 1);
         }
-        hall.begin(11, 0, 5, 5);
+        hall.begin(15, 0, 5, 5);
         for (int link = 0; link < seasons.length; link++) {
             t.is("link", Halls.link(hall, link % 2, link), link);
             t.is("season", hall.ofLink(link, 1), seasons[link]);
@@ -199,6 +200,22 @@ public final class AskTest {
         Halls.link(hall, 0, 2);
         t.is("still mended", hall.ofLink(1, 5), 1);
         t.is("not the next", hall.ofLink(2, 5), 0);
+    }
+
+    private static void hiddenLinkTellsAllButItsPoet() {
+        RengaHall hall = Halls.withPoets(2);
+        hall.word(2, 3, 4);
+        hall.word(3, 3, 8);
+        hall.begin(2, 0, 5, 5);
+        Halls.link(hall, 1, 0, 1);
+        hall.mend(1, 1);
+        hall.hide(0, true);
+        int[] due = {NONE, 3, 12, 2, 1, 1};
+        for (int what = 0; what <= 5; what++) {
+            t.is("what " + what, hall.ofLink(0, what), due[what]);
+        }
+        t.is("its words", hall.wordAt(0, 0), 0);
+        t.is("its words", hall.wordAt(0, 1), 1);
     }
 
     private static void ofLinkFrom0ToTheLatest() {

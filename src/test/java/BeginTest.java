@@ -51,6 +51,11 @@ public final class BeginTest {
         t.is("the last word of the last one", hall.wordAt(35, 5), 11);
         t.notNow("no link 36", () -> Halls.offer(hall, 0, 0, 1, 2, 3, 4, 5));
         t.noSuch("no link 36", () -> hall.ofLink(36, 0));
+        t.noSuch("no offer", () -> hall.choose(0));
+        t.is("offers", hall.offers(), 0);
+        t.is("no refusal", hall.why(), NONE);
+        t.is("words call each other to mind", hall.call(1, 7), false);
+        t.is("a poet comes", hall.poet(), 2);
     }
 
     private static void spanFrom0To10() {

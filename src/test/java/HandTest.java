@@ -18,6 +18,8 @@ public final class HandTest {
         oneForEachSign();
         wordsAndSignsTogether();
         allSigns();
+        wordsUpToThe40th();
+        noneForTheSeason();
         wordsOfAllPlaces();
         means();
         exactFractions();
@@ -221,6 +223,32 @@ public final class HandTest {
             t.is("it is a sign that both have", hall.hand(0), 1);
             t.is("nobody else has it", hall.hand(1), 1);
         }
+    }
+
+    private static void wordsUpToThe40th() {
+        for (int word = 1; word < 40; word++) {
+            RengaHall hall = Halls.withPoets(3);
+            Halls.addWords(hall, 40);
+            hall.call(0, word);
+            hall.begin(3, 0, 5, 5);
+            t.is("link 0", Halls.link(hall, 2, word), 0);
+            t.is("link 1", Halls.link(hall, 0, 0), 1);
+            t.is("link 2", Halls.link(hall, 1, word), 2);
+            t.is("word " + word + " in common", hall.hand(0), 1);
+        }
+    }
+
+    private static void noneForTheSeason() {
+        RengaHall hall = Halls.withPoets(3);
+        hall.word(5, RengaHall.SUMMER, 0);
+        hall.word(5, RengaHall.SUMMER, 0);
+        hall.word(5, NONE, 0);
+        Halls.callAll(hall, 3);
+        hall.begin(4, 0, 5, 5);
+        makeOf(hall, 2, 0);
+        makeOf(hall, 1, 1);
+        makeOf(hall, 0, 2);
+        t.is("the same season is nothing in common", hall.hand(0), 0);
     }
 
     private static void wordsOfAllPlaces() {

@@ -239,6 +239,8 @@ public final class JudgeTest {
         hall.mend(0, 2);
         t.is("points stay with a mended link", hall.give(0, 1, 2), 4);
         t.is("the other one", hall.prize(), 0);
+        hall.give(0, 1, 10);
+        t.is("a mended link counts", hall.prize(), 1);
     }
 
     private static void poetsWithoutPoints() {

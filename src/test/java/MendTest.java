@@ -10,6 +10,7 @@ public final class MendTest {
     public static void main(String[] args) {
         byTheWordThatIsThere();
         anotherWord();
+        draftStays();
         placeFrom0ToTheLast();
         wordFrom0ToTheLast();
         withoutALink();
@@ -67,6 +68,14 @@ public final class MendTest {
         t.is("the season", hall.ofLink(0, 1), NONE);
         t.is("the run", hall.ofLink(0, 4), 0);
         t.is("no refusal", hall.why(), NONE);
+    }
+
+    private static void draftStays() {
+        RengaHall hall = Halls.made(3, 3, 2);
+        hall.add(2);
+        hall.add(0);
+        t.is("mended", hall.mend(0, 2), 0);
+        t.is("two words", hall.clear(), 2);
     }
 
     private static void placeFrom0ToTheLast() {

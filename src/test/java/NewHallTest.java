@@ -8,6 +8,7 @@ public final class NewHallTest {
         noPoets();
         noPoem();
         noLinksOffersAndCopies();
+        noOffers();
         noPoints();
         noRefusal();
         emptyDraft();
@@ -83,6 +84,12 @@ public final class NewHallTest {
         t.noSuch("far from a copy", () -> hall.far(NONE, 0));
         t.noSuch("source", () -> hall.source(0));
         t.noSuch("hand", () -> hall.hand(0));
+    }
+
+    private static void noOffers() {
+        RengaHall hall = new RengaHall();
+        t.noSuch("choose", () -> hall.choose(0));
+        t.is("offers", hall.offers(), 0);
     }
 
     private static void noPoints() {

@@ -12,23 +12,30 @@ public final class ScribeTest {
         soundsLeastAndMost();
         mixedFirstUnlike();
         mixedLeastAndGreatestPlace();
+        mixedOfTheLastLink();
         againInIt();
         againInTheLinksAhead();
         againTheLowestPlace();
+        againAtEachPlace();
         againTheSpanOfThem();
         turnOfTheLinkAhead();
         turnOfLeastAndGreatestPoet();
         joinOfTheFirstLink();
         joinByCallOrSubject();
+        joinByEachSubject();
+        joinByWordsOfAllPlaces();
         joinToldByTheLinkAhead();
         leaveTheLowestSubject();
         leaveTheLinkTwoAheadAlone();
+        moonAndBlossomAreNoSubjects();
+        signsOfWordsOfAllPlaces();
         leavesSeasonEarly();
         staysInSeasonLong();
         comesBackSoon();
         comesBackBetweenOthers();
         lengthWithoutSeason();
         lengthOfSeveral();
+        lengthOfTheLastLink();
         seat();
         seatOfTheLastLink();
         firstOfSeveral();
@@ -102,6 +109,19 @@ public final class ScribeTest {
         t.is("one word has a season", Halls.offer(hall, 0, 0, 1, 2, 3, 4, 5), 0);
     }
 
+    private static void mixedOfTheLastLink() {
+        RengaHall hall = Halls.withPoets(2);
+        hall.word(5, NONE, 0);
+        hall.word(2, SUMMER, 0);
+        hall.word(3, WINTER, 0);
+        hall.word(3, SUMMER, 0);
+        hall.call(0, 1);
+        hall.begin(2, 0, 5, 5);
+        t.is("link 0", Halls.link(hall, 0, 0), 0);
+        t.refused("mixed", Halls.link(hall, 1, 1, 2), 2, hall, 1);
+        t.is("not mixed", Halls.link(hall, 1, 1, 3), 1);
+    }
+
     private static void againInIt() {
         RengaHall hall = Halls.withPoets(1);
         for (int word = 0; word < 6; word++) {
@@ -139,6 +159,31 @@ public final class ScribeTest {
         t.refused("in it, then ahead", Halls.link(hall, 1, 6, 7, 6, 5, 8, 9), 3, hall, 2);
         t.refused("ahead, then in it", Halls.link(hall, 1, 6, 5, 6, 7, 8, 9), 3, hall, 1);
         t.is("neither, but no join", Halls.link(hall, 1, 6, 7, 8, 9, 10, 11), -5);
+    }
+
+    private static void againAtEachPlace() {
+        RengaHall hall = Halls.withPoets(2);
+        for (int word = 0; word < 12; word++) {
+            hall.word(1, NONE, 1);
+        }
+        hall.begin(3, 1, 6, 6);
+        for (int again = 1; again < 6; again++) {
+            t.refused("in it", Halls.offer(hall, 0, rowOf6(6, again, 6)), 3, hall, again);
+        }
+        t.is("link 0", Halls.link(hall, 0, 0, 1, 2, 3, 4, 5), 0);
+        for (int again = 0; again < 6; again++) {
+            for (int ahead = 0; ahead < 6; ahead++) {
+                t.refused("ahead", Halls.offer(hall, 1, rowOf6(6, again, ahead)), 3, hall, again);
+            }
+        }
+        t.is("neither", Halls.offer(hall, 1, 6, 7, 8, 9, 10, 11), 0);
+    }
+
+    /** Six words from the first one on, but at the place another one. */
+    private static int[] rowOf6(int first, int place, int other) {
+        int[] row = {first, first + 1, first + 2, first + 3, first + 4, first + 5};
+        row[place] = other;
+        return row;
     }
 
     private static void againTheSpanOfThem() {
@@ -217,6 +262,38 @@ public final class ScribeTest {
         t.refused("the link ahead alone", Halls.link(hall, 0, 4), 5, hall, 3);
     }
 
+    private static void joinByEachSubject() {
+        RengaHall hall = Halls.withPoets(2);
+        for (int subject = 0; subject < 8; subject++) {
+            hall.word(5, NONE, 1 << subject);
+        }
+        hall.word(5, NONE, 255);
+        for (int subject = 0; subject < 8; subject++) {
+            hall.begin(2, 0, 5, 5);
+            t.is("link 0", Halls.link(hall, 0, subject), 0);
+            for (int other = 0; other < 8; other++) {
+                int due = other == subject ? 0 : -5;
+                t.is(subject + " and " + other, Halls.offer(hall, 1, other), due);
+            }
+            t.is("all subjects", Halls.offer(hall, 1, 8), 1);
+            t.is("link 1", hall.choose(1), 1);
+        }
+    }
+
+    private static void joinByWordsOfAllPlaces() {
+        for (int ahead = 0; ahead < 6; ahead++) {
+            for (int place = 0; place < 6; place++) {
+                RengaHall hall = Halls.withPoets(2);
+                Halls.addWords(hall, 12);
+                hall.begin(2, 0, 30, 30);
+                t.is("link 0", Halls.link(hall, 0, 0, 1, 2, 3, 4, 5), 0);
+                t.refused("none", Halls.offer(hall, 1, 6, 7, 8, 9, 10, 11), 5, hall, 0);
+                hall.call(6 + place, ahead);
+                t.is("one of each", Halls.offer(hall, 1, 6, 7, 8, 9, 10, 11), 0);
+            }
+        }
+    }
+
     /** By words at the last places of both, and by the link ahead up to the last but one. */
     private static void joinToldByTheLinkAhead() {
         RengaHall hall = Halls.withPoets(2);
@@ -277,6 +354,45 @@ public final class ScribeTest {
         t.is("neither", Halls.link(hall, 1, 4), 3);
         hall.call(0, 4);
         t.is("three and four ahead", Halls.link(hall, 0, 0), 4);
+    }
+
+    /** They neither join a link to the one ahead nor keep it from leaving the one two ahead. */
+    private static void moonAndBlossomAreNoSubjects() {
+        for (int seat = 1; seat <= 2; seat++) {
+            RengaHall hall = Halls.withPoets(2);
+            for (int word = 0; word < 3; word++) {
+                hall.word(5, NONE, 128 << seat);
+            }
+            hall.begin(3, 0, 5, 5);
+            for (int link = 0; link < 3; link++) {
+                hall.seat(link, seat);
+            }
+            t.is("link 0", Halls.link(hall, 0, 0), 0);
+            t.refused("no join", Halls.link(hall, 1, 1), 5, hall, 0);
+            hall.call(0, 1);
+            hall.call(1, 2);
+            t.is("link 1", Halls.link(hall, 1, 1), 1);
+            t.is("it leaves link 0", Halls.link(hall, 0, 2), 2);
+        }
+    }
+
+    private static void signsOfWordsOfAllPlaces() {
+        for (int ahead = 0; ahead < 6; ahead++) {
+            for (int place = 0; place < 6; place++) {
+                RengaHall hall = Halls.withPoets(2);
+                Halls.addWords(hall, 12);
+                hall.word(5, NONE, 8);
+                hall.word(5, NONE, 8);
+                hall.word(5, NONE, 256);
+                hall.begin(3, 0, 30, 30);
+                t.refused("MOON", Halls.link(hall, 0, rowOf6(0, place, 14)), 8, hall, 1);
+                t.is("link 0", Halls.link(hall, 0, rowOf6(0, ahead, 12)), 0);
+                t.is("its signs", hall.ofLink(0, 2), 8);
+                t.refused("no join", Halls.link(hall, 1, rowOf6(6, place, 6 + place)), 5, hall, 0);
+                t.is("joined by a subject", Halls.link(hall, 1, rowOf6(6, place, 13)), 1);
+                t.refused("not left", Halls.link(hall, 0, rowOf6(0, place, 12)), 6, hall, 3);
+            }
+        }
     }
 
     /** A hall in which word i has the season told for it, and each calls each other to mind. */
@@ -397,6 +513,26 @@ public final class ScribeTest {
         t.refused("SUMMER is back", next(hall, 3), 7, hall, SUMMER);
         t.is("SPRING", next(hall, 2), 4);
         t.is("SUMMER", next(hall, 3), 5);
+    }
+
+    private static void lengthOfTheLastLink() {
+        RengaHall spring = seasons(SPRING, SUMMER, NONE, SPRING);
+        spring.begin(2, 0, 5, 5);
+        t.is("SPRING", next(spring, 0), 0);
+        t.refused("left early, another", next(spring, 1), 7, spring, SPRING);
+        t.refused("left early, none", next(spring, 2), 7, spring, SPRING);
+        t.is("a run of 2 up to the end", next(spring, 3), 1);
+        RengaHall summer = seasons(SUMMER, SUMMER, NONE);
+        summer.begin(4, 0, 5, 5);
+        for (int link = 0; link < 3; link++) {
+            t.is("SUMMER", next(summer, link % 2), link);
+        }
+        t.refused("too long", next(summer, 1), 7, summer, SUMMER);
+        t.is("none", next(summer, 2), 3);
+        summer.begin(3, 0, 5, 5);
+        t.is("SUMMER", next(summer, 0), 0);
+        t.is("none", next(summer, 2), 1);
+        t.refused("back soon", next(summer, 1), 7, summer, SUMMER);
     }
 
     private static void seat() {

@@ -25,7 +25,6 @@ public final class ThrowsTest {
 
     public static void main(String[] args) {
         ThrowsTest fresh = new ThrowsTest("new hall", 0, RengaHall::new);
-        fresh.questionsChangeNothing();
         fresh.ranges();
         fresh.nothingThere();
         fresh.notNow("copy", h -> h.copy(NONE));
@@ -128,14 +127,6 @@ public final class ThrowsTest {
         throwing(what, IllegalStateException.class, call);
     }
 
-    private void questionsChangeNothing() {
-        for (int offer = 0; offer < due.length; offer++) {
-            RengaHall hall = made.get();
-            Told.questions(hall);
-            t.same(state + ", behind questions", Told.all(hall, offer), due[offer]);
-        }
-    }
-
     /** Arguments out of their range, which are told ahead of any state. */
     private void ranges() {
         outOfRange("word, sounds 0", h -> h.word(0, 0, 0));
@@ -183,7 +174,6 @@ public final class ThrowsTest {
     }
 
     private static void withoutAPoem(ThrowsTest it) {
-        it.questionsChangeNothing();
         it.ranges();
         it.noLinksAndCopies();
         it.notNow("word", h -> h.word(1, 0, 0));
@@ -204,7 +194,6 @@ public final class ThrowsTest {
     }
 
     private static void withoutLinks(ThrowsTest it) {
-        it.questionsChangeNothing();
         it.ranges();
         it.noLinksAndCopies();
         it.noSuch("seat, link -1", h -> h.seat(-1, 1));
@@ -219,7 +208,6 @@ public final class ThrowsTest {
     }
 
     private static void fullWordsAndPoets(ThrowsTest it) {
-        it.questionsChangeNothing();
         it.ranges();
         it.notNow("word", h -> h.word(12, NONE, 1023));
         it.noSuch("call, word 40", h -> h.call(40, 2));
@@ -305,7 +293,6 @@ public final class ThrowsTest {
     }
 
     private static void finished(ThrowsTest it) {
-        it.questionsChangeNothing();
         it.ranges();
         it.noSuch("seat, the last", h -> h.seat(1, 0));
         it.noSuch("seat, behind it", h -> h.seat(2, 3));
