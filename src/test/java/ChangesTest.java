@@ -3,9 +3,9 @@ import java.util.List;
 import java.util.function.Consumer;
 
 /**
- * "Questions change nothing", and each other call changes what the document says of it and nothing
- * else: behind one call more in each of seven states, all that can be told of a hall is compared
- * with PlainHall, which was asked alike.
+ * "Questions change nothing", "a call that throws an exception changes nothing", and each other
+ * call changes what the document says of it and nothing else: behind one call more in each of some
+ * states, all that can be told of a hall is compared with PlainHall, which was asked alike.
  */
 public final class ChangesTest {
     private static final int NONE = RengaHall.NONE;
@@ -24,6 +24,20 @@ public final class ChangesTest {
         "give 2 0 5", "give 3 1 4", "give 0 0 3", "copy -1", "copy 1", "copy 2", "write 0 0 0 9",
         "write 1 1 0 5", "write 2 1 0 4", "hide 0 1", "hide 0 0", "hide 1 1", "hide 1 0"};
 
+    /** These throw an exception in all states or, "call 1 1" and the like, where there is nothing. */
+    private static final String[] THROWING = {"word 0 0 0", "word 13 0 0", "word 1 -2 0", "word 1 4 0",
+        "word 1 0 -1", "word 1 0 1024", "call 40 0", "call 0 40", "call -1 0", "call 0 -1", "call 1 1",
+        "begin 1 2 6 6", "begin 37 2 6 6", "begin 3 -1 6 6", "begin 3 11 6 6", "begin 3 2 1 6",
+        "begin 3 2 41 6", "begin 3 2 6 1", "begin 3 2 6 41", "seat -1 0", "seat 4 0", "seat 3 3",
+        "seat 3 -1", "add 40", "add -1", "offer 6", "offer -1", "choose 4", "choose -1", "mend 6 0",
+        "mend -1 0", "mend 0 40", "mend 0 -1", "give 4 0 1", "give -1 0 1", "give 0 4 1",
+        "give 0 -1 1", "give 0 0 11", "give 0 0 -1", "copy 8", "copy -2", "write 8 0 0 0",
+        "write -1 0 0 0", "write 0 4 0 0", "write 0 -1 0 0", "write 0 0 6 0", "write 0 0 -1 0",
+        "write 0 0 0 40", "write 0 0 0 -1", "hide 4 1", "hide -1 0", "ofLink 4 0", "ofLink -1 0",
+        "ofLink 0 6", "ofLink 0 -1", "wordAt 4 0", "wordAt -1 0", "wordAt 0 6", "wordAt 0 -1",
+        "faultAnew 4", "faultAnew -1", "chances 6", "chances -1", "far 8 0", "far -2 0", "far 0 8",
+        "far 0 -2", "source 8", "source -1", "hand 4", "hand -1"};
+
     private final String state;
     private final Consumer<Both> maker;
 
@@ -40,9 +54,13 @@ public final class ChangesTest {
         states.add(new ChangesTest("poem with offers", ChangesTest::withOffers));
         states.add(new ChangesTest("poem without offers", ChangesTest::withLinks));
         states.add(new ChangesTest("poem whose latest link is hidden", ChangesTest::withHidden));
+        states.add(new ChangesTest("full hall", ChangesTest::full));
+        states.add(new ChangesTest("full hall, latest link hidden", ChangesTest::fullWithHidden));
         states.add(new ChangesTest("finished poem", ChangesTest::finished));
+        states.add(new ChangesTest("finished poem as it was made", ChangesTest::asMade));
         for (ChangesTest it : states) {
             it.questionsChangeNothing();
+            it.throwingCallsChangeNothing();
             it.callsChangeNothingElse();
         }
         t.end();
@@ -50,6 +68,12 @@ public final class ChangesTest {
 
     private void questionsChangeNothing() {
         for (String call : QUESTIONS) {
+            behind(call);
+        }
+    }
+
+    private void throwingCallsChangeNothing() {
+        for (String call : THROWING) {
             behind(call);
         }
     }
@@ -72,6 +96,8 @@ public final class ChangesTest {
         compare(call, ChangesTest::wordsAndPoets);
         compare(call, ChangesTest::calls);
         compare(call, ChangesTest::rowsOfOneWord);
+        compare(call, ChangesTest::seasonsAndSigns);
+        compare(call, ChangesTest::mending);
         compare(call, ChangesTest::nextLinks);
     }
 
@@ -135,12 +161,44 @@ public final class ChangesTest {
         makeAll(both, "clear", "add 2", "offer 0", "choose 0", "hide 2 1", "add 8", "add 6");
     }
 
+    private static void full(Both both) {
+        withOffers(both);
+        make(both, "offer 2");
+        fill(both);
+    }
+
+    private static void fullWithHidden(Both both) {
+        withHidden(both);
+        makeAll(both, "offer 1", "add 8", "add 6", "offer 2", "add 6", "add 8", "offer 2");
+        makeAll(both, "add 6", "add 8", "offer 1");
+        fill(both);
+    }
+
+    /** Up to 40 words, 6 poets, 6 words in the draft and 8 copies. */
+    private static void fill(Both both) {
+        makeAll(both, "add 0", "add 1", "add 3", "add 4", "add 5", "add 6");
+        makeAll(both, "poet", "poet", "poet");
+        for (int word = WORDS; word < 40; word++) {
+            make(both, "word 11 -1 0");
+        }
+        for (int copy = COPIES; copy < 8; copy++) {
+            both.same("copy", copy - COPIES);
+        }
+    }
+
     /** Of two links the second one is hidden. */
     private static void finished(Both both) {
         stock(both);
         make(both, "begin 2 1 5 7");
         twoLinks(both);
         make(both, "hide 1 1");
+    }
+
+    /** Two links, of which none is hidden and none mended. */
+    private static void asMade(Both both) {
+        stock(both);
+        makeAll(both, "call 0 2", "begin 2 1 5 9", "seat 1 1", "clear", "add 0", "offer 2", "choose 0");
+        makeAll(both, "add 2", "add 6", "offer 1", "choose 0", "add 7", "add 6");
     }
 
     private static void twoLinks(Both both) {
@@ -250,9 +308,44 @@ public final class ChangesTest {
         }
     }
 
+    /** Seasons by rows that are mixed, and both by links, if a new poem can be begun. */
+    private static void seasonsAndSigns(Both both) {
+        makeAll(both, "begin 2 0 12 12", "clear", "add 0", "add 3", "offer 0", "why");
+        makeAll(both, "clear", "add 3", "add 4", "offer 0", "why", "clear", "add 4", "add 5", "offer 0");
+        makeAll(both, "why", "begin 2 0 8 8", "clear", "add 8", "add 0", "offer 0", "why", "clear");
+        makeAll(both, "begin 2 0 5 7", "add 0", "offer 0", "choose 0", "add 1", "offer 1", "choose 0");
+        twoOfThem(both);
+        makeAll(both, "begin 2 0 5 7", "seat 0 1", "add 2", "offer 0", "choose 0", "add 3", "offer 1");
+        make(both, "choose 0");
+        twoOfThem(both);
+        makeAll(both, "begin 2 0 5 7", "seat 0 1", "add 4", "offer 0", "choose 0", "add 5", "offer 1");
+        make(both, "choose 0");
+        twoOfThem(both);
+        makeAll(both, "begin 2 0 5 7", "seat 0 1", "seat 1 2", "add 6", "add 7", "offer 0", "choose 0");
+        makeAll(both, "add 8", "add 6", "offer 1", "choose 0");
+        twoOfThem(both);
+        makeAll(both, "begin 2 0 5 7", "seat 0 2", "add 8", "add 9", "offer 0", "choose 0");
+        twoOfThem(both);
+    }
+
+    private static void twoOfThem(Both both) {
+        makeAll(both, "ofLink 0 1", "ofLink 0 2", "ofLink 1 1", "ofLink 1 2");
+    }
+
+    private static void mending(Both both) {
+        make(both, "choose 0");
+        for (int word = 0; word < WORDS; word++) {
+            both.same("mend", 0, word);
+            make(both, "why");
+            both.same("mend", 1, word);
+            make(both, "why");
+        }
+        latest(both);
+    }
+
     /** Links up to the end of the poem, then a new one: with words again, as the span lets them. */
     private static void nextLinks(Both both) {
-        makeAll(both, "choose 1", "clear", "add 2", "offer 0", "choose 0", "clear", "add 2", "add 9");
+        makeAll(both, "choose 0", "clear", "add 2", "offer 0", "choose 0", "clear", "add 2", "add 9");
         makeAll(both, "offer 2", "why", "clear", "add 5", "offer 2", "why", "clear", "add 8", "add 6");
         makeAll(both, "offer 1", "why", "choose 0", "mend 1 7", "why", "mend 0 8", "ofLink 3 1");
         makeAll(both, "links", "prize", "hand 0", "hand 1", "begin 3 2 7 5", "chances 0", "chances 2");
