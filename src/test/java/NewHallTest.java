@@ -12,6 +12,7 @@ public final class NewHallTest {
         noPoints();
         noRefusal();
         emptyDraft();
+        firstWordsOfTheDraft();
         nothingOfAnotherHall();
         upToThe512thCall();
         t.end();
@@ -111,6 +112,23 @@ public final class NewHallTest {
         t.is("it has not as many sounds as it must", hall.offer(0), -1);
         t.is("but 0", hall.why(), 0);
         t.is("clear", hall.clear(), 0);
+    }
+
+    /** What is added to a draft that was never emptied is all that is in it. */
+    private static void firstWordsOfTheDraft() {
+        for (int season = NONE; season <= RengaHall.WINTER; season++) {
+            RengaHall hall = Halls.withPoets(1);
+            hall.word(2, NONE, 8);
+            hall.word(3, season, 1);
+            hall.begin(2, 10, 5, 5);
+            t.is("add", hall.add(0), 1);
+            t.is("add", hall.add(1), 2);
+            t.is("offer", hall.offer(0), 0);
+            t.is("choose", hall.choose(0), 0);
+            t.is("its season", hall.ofLink(0, 1), season);
+            t.is("its signs", hall.ofLink(0, 2), 9);
+            t.is("its words", hall.ofLink(0, 3), 2);
+        }
     }
 
     private static void nothingOfAnotherHall() {
