@@ -6,6 +6,7 @@ import java.util.Arrays;
  */
 final class Both {
     static final int CALLS = 512;
+    private static final int THROWN = -1001;
 
     final PlainHall plain = new PlainHall();
     private final RengaHall hall = new RengaHall();
@@ -24,12 +25,12 @@ final class Both {
         try {
             got = ofHall(name, a);
         } catch (RuntimeException e) {
-            got = number(e, -1004);
+            got = number(e, THROWN - 3);
         }
         try {
             last = ofPlain(name, a);
         } catch (RuntimeException e) {
-            last = number(e, -1005);
+            last = number(e, THROWN - 4);
         }
         told.append(name).append(Arrays.toString(a)).append(" answered ").append(got);
         told.append(", due is ").append(last).append('\n');
@@ -46,6 +47,11 @@ final class Both {
         return last;
     }
 
+    /** Whether an exception is due for the latest call. */
+    boolean hasThrown() {
+        return last <= THROWN;
+    }
+
     /** All calls and what both answered, the latest one at the end. */
     String told() {
         return told.toString();
@@ -59,12 +65,12 @@ final class Both {
     /** The number of an exception; the other number if no call of the document throws it. */
     private static long number(RuntimeException e, long other) {
         if (e.getClass() == IndexOutOfBoundsException.class) {
-            return -1001;
+            return THROWN;
         }
         if (e.getClass() == IllegalArgumentException.class) {
-            return -1002;
+            return THROWN - 1;
         }
-        return e.getClass() == IllegalStateException.class ? -1003 : other;
+        return e.getClass() == IllegalStateException.class ? THROWN - 2 : other;
     }
 
     private long ofHall(String name, int[] a) {

@@ -24,7 +24,7 @@ public final class ChangesTest {
         "give 2 0 5", "give 3 1 4", "give 0 0 3", "copy -1", "copy 1", "copy 2", "write 0 0 0 9",
         "write 1 1 0 5", "write 2 1 0 4", "hide 0 1", "hide 0 0", "hide 1 1", "hide 1 0"};
 
-    /** These throw an exception in all states or, "call 1 1" and the like, where there is nothing. */
+    /** Each throws an exception in all states, be it one or another. */
     private static final String[] THROWING = {"word 0 0 0", "word 13 0 0", "word 1 -2 0", "word 1 4 0",
         "word 1 0 -1", "word 1 0 1024", "call 40 0", "call 0 40", "call -1 0", "call 0 -1", "call 1 1",
         "begin 1 2 6 6", "begin 37 2 6 6", "begin 3 -1 6 6", "begin 3 11 6 6", "begin 3 2 1 6",
@@ -74,6 +74,10 @@ public final class ChangesTest {
 
     private void throwingCallsChangeNothing() {
         for (String call : THROWING) {
+            Both both = new Both();
+            maker.accept(both);
+            make(both, call);
+            t.is(state + ", " + call + " throws", both.hasThrown(), true);
             behind(call);
         }
     }
